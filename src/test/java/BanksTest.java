@@ -7,6 +7,7 @@ public final class BanksTest {
         greatestExcessGives();
         greatestBalanceGives();
         greatestRoomGets();
+        theTopGetsToo();
         onlyInThePool();
         whoCannotGiveIsPassedOver();
         whoCannotGet();
@@ -88,6 +89,13 @@ public final class BanksTest {
         limits(t, 90, 50, -1, 50);
         t.passDays(1);
         CHECK.balances("by the number of the account, not of the bank", t, 90, 10, 0, 0);
+    }
+
+    private static void theTopGetsToo() {
+        CashPools x = desk(new int[] {1, 0}, new int[] {0, 100});
+        limits(x, 30);
+        x.passDays(1);
+        CHECK.balances("up to the top", x, 70, 30);
     }
 
     private static void onlyInThePool() {

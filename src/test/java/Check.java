@@ -25,13 +25,19 @@ final class Check {
         try {
             tell(what + " answered " + call.getAsLong() + ", due is " + due.getSimpleName());
         } catch (RuntimeException thrown) {
-            if (thrown.getClass() != due) {
+            if (thrown.getClass() != due || !thrownByProgram(thrown)) {
                 tell(what + " threw " + thrown + ", due is " + due.getSimpleName());
             }
         }
         if (!before.equals(Snapshot.of(desk))) {
             tell(what + " threw, and changed something");
         }
+    }
+
+    /** Thrown by the program's own throw, not by the machine or the library. */
+    static boolean thrownByProgram(RuntimeException thrown) {
+        StackTraceElement[] trace = thrown.getStackTrace();
+        return trace.length > 0 && trace[0].getClassName().startsWith("CashPools");
     }
 
     void balances(String when, CashPools desk, long... due) {

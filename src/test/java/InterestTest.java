@@ -10,6 +10,8 @@ public final class InterestTest {
         sameRemainders();
         remainderStays();
         weightsStartAgain();
+        weightsStartFromNothing();
+        weightsGrowWithTheirSum();
         everyTwentyDays();
         poolsApart();
         noInterest();
@@ -106,6 +108,37 @@ public final class InterestTest {
         interest("all but nothing to the second", x, 10000, 5000, 5000);
         x.addAccount(1, 0);
         CHECK.same("a new account", x.interestOf(2), 0);
+    }
+
+    /** 2 split as 3 to 1 is a tie of 1.5 and 0.5: any weight that is left over would turn it. */
+    private static void weightsStartFromNothing() {
+        CashPools x = pool(360, 0, 750, 250, 0);
+        x.passDays(20);
+        interest("first", x, 2, 2, 0, 0);
+        x.book(0, -2);
+        x.passDays(20);
+        interest("second", x, 4, 4, 0, 0);
+        CashPools y = pool(0, 360, -750, -250, 0);
+        y.passDays(20);
+        interest("first", y, -2, -2, 0, 0);
+        y.book(0, 2);
+        y.passDays(20);
+        interest("second", y, -4, -4, 0, 0);
+    }
+
+    /** On days with 0 together no weight grows; the other side's weights do not either. */
+    private static void weightsGrowWithTheirSum() {
+        CashPools x = pool(1000, 1000, 0, 400000, -400000);
+        x.passDays(10);
+        x.book(1, -400000);
+        x.book(0, 580000);
+        x.passDays(10);
+        interest("only the second half", x, 500, 500, 0, 0);
+        CashPools y = pool(1000, 1000, 180000, -360000);
+        y.passDays(10);
+        y.book(1, 540000);
+        y.passDays(10);
+        interest("each in its half", y, -500 + 1000, 500, 500 - 500);
     }
 
     private static void everyTwentyDays() {

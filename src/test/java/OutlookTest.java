@@ -72,6 +72,9 @@ public final class OutlookTest {
         x.schedule(2, 70000, 0, 3, 12);
         x.schedule(0, -95000, 2, 2, 15);
         x.schedule(4, -20001, 9, 9, 9);
+        int owing = x.addPool(3, 0, 1000);
+        x.book(owing, -800000);
+        x.addLine(owing, 500000, 1000);
         return x;
     }
 
@@ -134,11 +137,11 @@ public final class OutlookTest {
 
     private static void wrongInputs() {
         CashPools x = busyDesk();
-        CHECK.refused(x, "no account", Check.INDEX, () -> x.forecast(5, 0));
+        CHECK.refused(x, "no account", Check.INDEX, () -> x.forecast(6, 0));
         CHECK.refused(x, "no account", Check.INDEX, () -> x.forecast(-1, 1));
         CHECK.refused(x, "0 days", Check.ARGUMENT, () -> x.forecast(0, 0));
         CHECK.refused(x, "61 days", Check.ARGUMENT, () -> x.forecast(0, 61));
-        CHECK.refused(x, "no account", Check.INDEX, () -> x.daysToShort(5, 0));
+        CHECK.refused(x, "no account", Check.INDEX, () -> x.daysToShort(6, 0));
         CHECK.refused(x, "no account", Check.INDEX, () -> x.daysToShort(-1, 1));
         CHECK.refused(x, "0 days", Check.ARGUMENT, () -> x.daysToShort(0, 0));
         CHECK.refused(x, "61 days", Check.ARGUMENT, () -> x.daysToShort(0, 61));

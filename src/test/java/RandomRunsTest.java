@@ -52,11 +52,12 @@ public final class RandomRunsTest {
         }
     }
 
-    private String answer(String name, int[] arguments) {
+    private String answer(String call, int[] arguments) {
         try {
-            return Long.toString(call(name, arguments));
+            return Long.toString(call(call, arguments));
         } catch (RuntimeException thrown) {
-            return thrown.getClass().getSimpleName();
+            String name = thrown.getClass().getSimpleName();
+            return Check.thrownByProgram(thrown) ? name : name + " by itself";
         }
     }
 
