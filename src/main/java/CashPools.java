@@ -313,6 +313,7 @@ public final class CashPools {
     /** All that the desk holds, and what happens to it when a day passes. */
     private static final class Desk {
         final ArrayList<Account> everyAccount = new ArrayList<>();
+        private final ArrayList<Account> tops = new ArrayList<>();
         final ArrayList<Line> everyLine = new ArrayList<>();
         final ArrayList<Flow> everyFlow = new ArrayList<>();
         final ArrayList<Bank> banks = new ArrayList<>();
@@ -329,7 +330,9 @@ public final class CashPools {
         int openPool(Bank bank, int creditRate, int debitRate) {
             int number = everyAccount.size();
             Pool pool = new Pool(number, creditRate, debitRate);
-            enter(new Account(number, null, pool, bank));
+            Account top = new Account(number, null, pool, bank);
+            tops.add(top);
+            enter(top);
             return number;
         }
 
@@ -374,21 +377,16 @@ public final class CashPools {
         }
 
         void sweepPools() {
-            for (int i = 0; i < everyAccount.size(); i++) {
-                Account account = everyAccount.get(i);
-                if (account.parent == null) {
-                    Tree.sweep(account);
-                }
+            for (int i = 0; i < tops.size(); i++) {
+                Tree.sweep(tops.get(i));
             }
         }
 
         private void coverPools() {
-            for (int i = 0; i < everyAccount.size(); i++) {
-                Account account = everyAccount.get(i);
-                if (account.parent == null) {
-                    account.pool.drawMissing(account);
-                    account.pool.payBack(account);
-                }
+            for (int i = 0; i < tops.size(); i++) {
+                Account top = tops.get(i);
+                top.pool.drawMissing(top);
+                top.pool.payBack(top);
             }
         }
 
@@ -459,11 +457,8 @@ public final class CashPools {
         }
 
         private void accrueInterest() {
-            for (int i = 0; i < everyAccount.size(); i++) {
-                Account account = everyAccount.get(i);
-                if (account.parent == null) {
-                    account.pool.accrue();
-                }
+            for (int i = 0; i < tops.size(); i++) {
+                tops.get(i).pool.accrue();
             }
             for (int i = 0; i < everyLine.size(); i++) {
                 everyLine.get(i).accrue();
@@ -471,11 +466,8 @@ public final class CashPools {
         }
 
         private void bookInterest() {
-            for (int i = 0; i < everyAccount.size(); i++) {
-                Account account = everyAccount.get(i);
-                if (account.parent == null) {
-                    account.pool.bookInterest();
-                }
+            for (int i = 0; i < tops.size(); i++) {
+                tops.get(i).pool.bookInterest();
             }
             for (int i = 0; i < everyLine.size(); i++) {
                 everyLine.get(i).bookInterest();
@@ -496,11 +488,10 @@ public final class CashPools {
         void keep() {
             keptDay = day;
             for (int i = 0; i < everyAccount.size(); i++) {
-                Account account = everyAccount.get(i);
-                account.keep();
-                if (account.parent == null) {
-                    account.pool.keep();
-                }
+                everyAccount.get(i).keep();
+            }
+            for (int i = 0; i < tops.size(); i++) {
+                tops.get(i).pool.keep();
             }
             for (int i = 0; i < everyLine.size(); i++) {
                 everyLine.get(i).keep();
@@ -513,11 +504,10 @@ public final class CashPools {
         void goBack() {
             day = keptDay;
             for (int i = 0; i < everyAccount.size(); i++) {
-                Account account = everyAccount.get(i);
-                account.goBack();
-                if (account.parent == null) {
-                    account.pool.goBack();
-                }
+                everyAccount.get(i).goBack();
+            }
+            for (int i = 0; i < tops.size(); i++) {
+                tops.get(i).pool.goBack();
             }
             for (int i = 0; i < everyLine.size(); i++) {
                 everyLine.get(i).goBack();
