@@ -6,6 +6,7 @@ public final class RandomRunsTest {
     private static final Check CHECK = new Check("RandomRunsTest");
     private static final int RUNS = Integer.getInteger("runs", 400);
     private static final int CALLS = 512;
+    private static final int ENOUGH = 20;
 
     private static final String[] CHANGES = {
         "addPool", "addAccount", "addAccount", "setRule", "setRule", "setRule", "setFloor", "addLine",
@@ -31,13 +32,14 @@ public final class RandomRunsTest {
     }
 
     public static void main(String[] args) {
-        for (int run = 0; run < RUNS; run++) {
-            new RandomRunsTest(run).run(run);
+        for (int run = 0; run < RUNS && CHECK.wrong() < ENOUGH; run++) {
+            CHECK.about("run " + run);
+            new RandomRunsTest(run).run();
         }
         CHECK.finish();
     }
 
-    private void run(int run) {
+    private void run() {
         for (int call = 0; call < CALLS; call++) {
             String[] names = call < 14 || random.nextInt(3) == 0 ? CHANGES : QUESTIONS;
             String name = call == 0 ? "addPool" : names[random.nextInt(names.length)];
@@ -45,7 +47,7 @@ public final class RandomRunsTest {
             String due = reference.answer(name, arguments);
             String got = answer(name, arguments);
             if (!due.equals(got)) {
-                CHECK.tell("run " + run + " call " + call + " " + name + Arrays.toString(arguments)
+                CHECK.tell("call " + call + " " + name + Arrays.toString(arguments)
                         + " answered " + got + ", due is " + due);
                 return;
             }
@@ -154,13 +156,12 @@ public final class RandomRunsTest {
         return random.nextInt(3) == 0 ? 10 * within(-scale / 10, scale / 10) : within(-scale, scale);
     }
 
-    /** Now and then just outside, or far outside. */
+    /** Often the least or the greatest; now and then just outside, or far outside. */
     private int within(int low, int high) {
-        switch (random.nextInt(150)) {
-            case 0: return low - 1;
-            case 1: return high + 1;
-            case 2: return random.nextInt();
-            default: return low + random.nextInt(high - low + 1);
+        int kind = random.nextInt(150);
+        if (kind < 3) {
+            return kind == 0 ? low - 1 : kind == 1 ? high + 1 : random.nextInt();
         }
+        return kind < 9 ? low : kind < 15 ? high : low + random.nextInt(high - low + 1);
     }
 }
