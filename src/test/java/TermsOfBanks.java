@@ -12,6 +12,7 @@ final class TermsOfBanks {
         doc.says("and its room is greater than that of any bank with a limit, and without end.",
                 TermsOfBanks::roomWithoutEnd);
         doc.says("Banks are eased by moves, as long as one is possible:", TermsOfBanks::asLongAsPossible);
+        doc.says("Banks are eased by moves, as long as one is possible:", TermsOfBanks::manyMoves);
         doc.says("Banks are eased by moves, as long as one is possible:", TermsOfBanks::passedOver);
         doc.says("a move goes from an account with a balance above 0 at a bank with an excess",
                 TermsOfBanks::whoGives);
@@ -95,6 +96,13 @@ final class TermsOfBanks {
         CashPools z = Desks.atBanks(new int[] {0, 1, 2, 3}, 90, 90, 0, 0);
         c.balances("until no excess is left", eased(z, 50, 60, 35, 45), 50, 60, 30, 40);
         c.balances("no account", eased(new CashPools(), 0, 0, 0, 0));
+    }
+
+    private static void manyMoves(Check c) {
+        CashPools nine = Desks.atBanks(new int[] {1, 0, 0, 0, 0, 0, 0, 0, 0, 0}, 0, 1, 2, 3, 4, 5, 6, 7, 8, 9);
+        c.balances("nine givers", eased(nine, 0), 45, 0, 0, 0, 0, 0, 0, 0, 0, 0);
+        CashPools eight = Desks.atBanks(new int[] {0, 0, 0, 0, 0, 0, 0, 1, 2, 3}, 10, 10, 10, 10, 10, 10, 10);
+        c.balances("the last of seven gives twice", eased(eight, 0, 15, 25, 35), 0, 0, 0, 0, 0, 0, 0, 15, 25, 30);
     }
 
     /** The bank with the greatest excess holds an account that can't give, but others still can. */
