@@ -5,6 +5,7 @@ import java.util.Random;
 public final class RandomRunsTest {
     private static final Check CHECK = new Check("RandomRunsTest");
     private static final int RUNS = Integer.getInteger("runs", 400);
+    private static final int FIRST = Integer.getInteger("first", 0);
     private static final int CALLS = 512;
     private static final int ENOUGH = 20;
 
@@ -33,8 +34,8 @@ public final class RandomRunsTest {
 
     public static void main(String[] args) {
         for (int run = 0; run < RUNS && CHECK.wrong() < ENOUGH; run++) {
-            CHECK.about("run " + run);
-            new RandomRunsTest(run).run();
+            CHECK.about("run " + (FIRST + run));
+            new RandomRunsTest(FIRST + run).run();
         }
         CHECK.finish();
     }
